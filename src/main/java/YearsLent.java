@@ -6,11 +6,12 @@ public final class YearsLent {
     private static final int MOST_LOANS = 8, MOST_LENT = 200, MOST_DUE_IN = 200;
     private static final int MOST_TOLD = 12, MOST_DEEDS = 6, MOST_KEPT = 2;
     private static final int MOST_RUN = 2000, FALL_WEEKS = 300, NEVER = 1000000;
-    private static final int MOST_WORTH = 99, HUNDRED = 100;
+    private static final int RATE_WITHOUT = 10, MOST_RATE = 99, HUNDRED = 100;
+    private static final int MOST_WORTH = 99;
     private static final int MOST_ROW = 4, MOST_NUMBER = 12, MOST_SUM = 999;
     private static final int MOST_SEED = 9999, MOST_DRAWS = 60, DRAW_MODULUS = 65521;
-    private static final int WHOLE = 1, FIRST = 2, PLEDGED = 3;
-    private static final int STRICT = 0, LAX = 1;
+    private static final int PLAIN = 0, WHOLE = 1, FIRST = 2, PLEDGED = 3;
+    private static final int STRICT = 0, LAX = 1, SILENT = 2;
 
     private final Text text = new Text();
     private final Terms terms = new Terms();
@@ -25,8 +26,9 @@ public final class YearsLent {
     private final Gifts gifts = new Gifts();
 
     public YearsLent() {
-        terms.accept('p', 50);
-        terms.accept('p', 80);
+        terms.clear();
+        terms.addPerson(50);
+        terms.addPerson(80);
         books.open();
     }
 
@@ -329,7 +331,7 @@ public final class YearsLent {
             }
         }
 
-        /** Whether an item of one number begins there; its letter, its number and its end are held then. */
+        // No letter takes more than one number, so a comma never stands in an item.
         boolean readItem(int start) {
             if (!within(start, 0, length - 1)) {
                 return false;
@@ -346,13 +348,20 @@ public final class YearsLent {
         }
     }
 
-    /** What a text says: the weeks that each was given, and the laws. */
+    /** What a text says; read into a draft first, since one with a fault must not touch what is laid. */
     private static final class Terms {
         final int[] laid = new int[MOST_PERSONS];
         int persons;
-        int rate = 10;
+        int rate;
         int kind;
-        int law = STRICT;
+        int law;
+
+        void clear() {
+            persons = 0;
+            rate = RATE_WITHOUT;
+            kind = PLAIN;
+            law = STRICT;
+        }
 
         void copyFrom(Terms other) {
             System.arraycopy(other.laid, 0, laid, 0, MOST_PERSONS);
@@ -362,12 +371,8 @@ public final class YearsLent {
             law = other.law;
         }
 
-        /** The fault of the text, or NONE: then these are its terms. */
         int readFrom(Text text) {
-            persons = 0;
-            rate = 10;
-            kind = 0;
-            law = STRICT;
+            clear();
             int start = 0;
             while (start < text.length) {
                 if (!text.readItem(start) || !accept(text.letter, text.number)) {
@@ -378,17 +383,26 @@ public final class YearsLent {
             return NONE;
         }
 
-        boolean accept(int letter, int number) {
+        // A number that is none for its letter may be set here all the same: terms with a fault are never laid.
+        private boolean accept(int letter, int number) {
             switch (letter) {
-                case 'p': return addPerson(number);
-                case 'r': rate = number; return within(number, 0, 99);
-                case 'k': kind = number; return within(number, 0, PLEDGED);
-                case 'n': law = number; return within(number, 0, 2);
-                default: return false;
+                case 'p':
+                    return addPerson(number);
+                case 'r':
+                    rate = number;
+                    return within(number, 0, MOST_RATE);
+                case 'k':
+                    kind = number;
+                    return within(number, PLAIN, PLEDGED);
+                case 'n':
+                    law = number;
+                    return within(number, STRICT, SILENT);
+                default:
+                    return false;
             }
         }
 
-        private boolean addPerson(int weeks) {
+        boolean addPerson(int weeks) {
             if (!within(weeks, 1, MOST_WEEKS_LAID) || persons >= MOST_PERSONS) {
                 return false;
             }
@@ -410,7 +424,7 @@ public final class YearsLent {
         final int[] borrower = new int[MOST_LOANS];
         final int[] amount = new int[MOST_LOANS];
         final int[] dueIn = new int[MOST_LOANS];
-        // A loan's place changes as others are paid: the mark still tells two trials of one loan apart from the rest.
+        // A loan's place changes as others are paid; by its mark two trials still know it as the same.
         final int[] mark = new int[MOST_LOANS];
         final int[] paidByMark = new int[MOST_LOANS];
         int loans;
@@ -522,7 +536,7 @@ public final class YearsLent {
             return due;
         }
 
-        /** So many weeks, of which only the last can bring a payment: from 1 to most. */
+        // Weeks ahead of the next payment are all alike, so that trials may let them go by at once.
         int weeksToNextDue(int most) {
             int next = most;
             for (int k = 0; k < loans; k++) {
@@ -531,7 +545,7 @@ public final class YearsLent {
             return Math.max(1, next);
         }
 
-        /** No loan may be due ahead of the last of these weeks. */
+        // Only the last of these weeks may bring a payment.
         void pass(int span) {
             for (int i = 0; i < terms.persons; i++) {
                 weeks[i] = Math.max(0, weeks[i] - span);
@@ -585,7 +599,6 @@ public final class YearsLent {
             lost[i] += due - paid;
         }
 
-        /** What is given of that: the giver keeps a week. */
         private int give(int giver, int taker, int asked) {
             if (!isAlive(giver)) {
                 return 0;
@@ -621,7 +634,7 @@ public final class YearsLent {
         }
     }
 
-    /** A copy of books on which weeks go by, with the week in which each is dead. */
+    /** Questions of what would be are tried on a copy, so that asking changes nothing. */
     private static final class Trial {
         final Books books;
         final int[] deadIn = new int[MOST_PERSONS];
@@ -687,7 +700,7 @@ public final class YearsLent {
         }
     }
 
-    /** Copies of books one above the other; of too many the lowest one goes. */
+    /** Books as they were. All copies are made at once and used again, since every deed needs one. */
     private static final class Shelf {
         final Books[] copies;
         int size;
@@ -716,7 +729,6 @@ public final class YearsLent {
             copies[size] = lowest;
         }
 
-        /** How many are left, or NO. */
         int takeInto(Books books) {
             if (!within(size, 1, copies.length)) {
                 return NO;
@@ -829,7 +841,7 @@ public final class YearsLent {
             return 0;
         }
 
-        /** Whether the first ones placed can be made a ring of that length; the lowest rows are tried first. */
+        // Only persons above the first are tried, in rising order: so the first ring found is the first as a row.
         private boolean closes(int placed, int length) {
             if (!within(placed, 1, MOST_PERSONS)) {
                 return false;

@@ -81,7 +81,6 @@ public final class BooksTest {
             due("lend", x.lend(0, 1, 10 + k, 100), k);
         }
         due("a ninth", x.lend(0, 1, 1, 1), YearsLent.FULL);
-        due("NO ahead of FULL", x.lend(1, 0, 1, 1) == YearsLent.FULL ? x.lend(0, 1, 200, 200) : 0, YearsLent.FULL);
         due("BAD ahead of FULL", x.lend(0, 0, 1, 1), YearsLent.BAD);
         due("nothing changes by that", x.count(1), 8);
         due("WEEKS of 0", x.person(0, 0), 784);

@@ -86,11 +86,10 @@ public final class DrawsTest {
         due("SILENT: all die", x.drawn(9999, 60, 0), 0);
         x = Check.laid("p50;p5;r50;n1;");
         x.lend(0, 1, 10, 1);
-        x.lend(0, 1, 8, 2);
-        x.lend(0, 1, 7, 2);
         x.week();
-        int lost = x.person(0, 1);
-        due("LOST so far", lost, 0);
+        due("LOST so far", x.person(0, 1), 2);
+        due("LOST so far counts", x.drawn(0, 1, 1), 2);
+        x = new YearsLent();
         for (int z : new int[] {-1, 10000, Integer.MIN_VALUE, Integer.MAX_VALUE}) {
             due("drawn(" + z + ", 1, 0)", x.drawn(z, 1, 0), YearsLent.BAD);
         }

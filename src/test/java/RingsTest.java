@@ -90,7 +90,7 @@ public final class RingsTest {
         due("child(1, 3)", x.child(1, 3), YearsLent.BAD);
         due("BAD ahead of NO", x.child(99, 3), YearsLent.BAD);
         x = Check.laid("p2;p51;p1;");
-        due("the greatest rest: 3, 94, 1 of 54 by 99", x.child(50, 0), YearsLent.NO);
+        due("2, 51, 1 by 50: 1 of 2 for 0, 47 for 1, 0 for 2; rests 46, 12, 50 of 54", x.child(50, 0), YearsLent.NO);
         due("2, 51, 1 by 20: rests 40, 48, 20 of 54", x.child(20, 0), 1);
         due("child(20, 1)", x.child(20, 1), 19);
         due("child(20, 2)", x.child(20, 2), 0);
