@@ -2,12 +2,20 @@
 final class Check {
     private int asked = 0;
     private int wrong = 0;
+    private String sentence = "";
+
+    /** The sentence of the document by which the next answers are due. */
+    void says(String words) {
+        sentence = "";
+        due("'" + words + "' is found once in the document", Doc.placeOf(words) >= 0 ? 1 : 0, 1);
+        sentence = "'" + words + "': ";
+    }
 
     void due(String call, long got, long want) {
         asked++;
         if (got != want) {
             wrong++;
-            System.out.println(call + " answered " + got + ", due is " + want);
+            System.out.println(sentence + call + " answered " + got + ", due is " + want);
         }
     }
 
