@@ -95,6 +95,7 @@ public final class EdgesOfAnswersTest {
             due("there is no " + i + ": child", x.child(1, i), BAD);
             due("there is no " + i + ": falls", x.falls(i, 0), BAD);
         }
+        beyondSix();
         x = dead();
         due("one who is DEAD is a PERSON: person", x.person(0, 0), 0);
         due("one who is DEAD is a PERSON: dies", x.dies(0), 0);
@@ -103,6 +104,28 @@ public final class EdgesOfAnswersTest {
         due("one who is DEAD is a PERSON: span", x.span(0, 0), 2);
         due("one who is DEAD is a PERSON: ask", x.ask(0, 1), 200);
         due("one who is DEAD is a PERSON: cleared", x.cleared(0, 1), 0);
+    }
+
+    private static void beyondSix() {
+        YearsLent x = Check.laid("p9;p9;p9;p9;p9;p9;");
+        for (int i : new int[] {6, 7, 8, Integer.MAX_VALUE}) {
+            due("of six there is no " + i + ": person", x.person(i, 0), BAD);
+            due("of six there is no " + i + ": notary", x.notary(i, 0, 1, 1), BAD);
+            due("of six there is no " + i + ": notary", x.notary(0, i, 1, 1), BAD);
+            due("of six there is no " + i + ": lend", x.lend(i, 0, 1, 1), BAD);
+            due("of six there is no " + i + ": lend", x.lend(0, i, 1, 1), BAD);
+            due("of six there is no " + i + ": dies", x.dies(i), BAD);
+            due("of six there is no " + i + ": run", x.run(1, i, 0), BAD);
+            due("of six there is no " + i + ": tell", x.tell(i, 1, 1, true), BAD);
+            due("of six there is no " + i + ": span", x.span(i, 0), BAD);
+            due("of six there is no " + i + ": ask", x.ask(i, 1), BAD);
+            due("of six there is no " + i + ": cleared", x.cleared(i, i), BAD);
+            due("of six there is no " + i + ": child", x.child(1, i), BAD);
+            due("of six there is no " + i + ": falls", x.falls(i, 0), BAD);
+        }
+        due("of six there is 5: child", x.child(6, 5), 1);
+        due("of six there is 5: falls", x.falls(5, 0), 0);
+        due("of six there is 5: notary", x.notary(5, 4, 1, 1), 1);
     }
 
     private static void whatIsNo() {
@@ -185,7 +208,14 @@ public final class EdgesOfAnswersTest {
             seen.add(x.ask(i, 10));
             seen.add(x.run(30, i, 0));
             seen.add(x.notary(i, (i + 1) % 4, 5, 9));
+            seen.add(x.falls(i, 0));
+            seen.add(x.falls(i, 1));
+            seen.add(x.child(7, i));
+            seen.add(x.dies(i));
+            seen.add(x.cleared(i, (i + 1) % 4));
         }
+        seen.add(x.drawn(77, 20, 0));
+        seen.add(x.drawn(77, 20, 1));
         seen.add(x.bribed());
         seen.add(x.fault());
         for (int k = 0; k < 7; k++) {

@@ -166,10 +166,26 @@ public final class EdgesOfLoansTest {
         due("149 and 10 less 41 less 75 are 43", x.notary(2, 1, 10, 41), 1);
         due("149 and 10 less 68 less 75 are 16, more than 15", x.notary(0, 1, 10, 68), 1);
         due("149 and 10 less 69 less 75 are 15", x.notary(0, 1, 10, 69), 0);
+        otherLoansDoNotCount();
         x = Check.laid("p999;p1;r0;");
         due("1 and 200 less 1 are 200", x.notary(0, 1, 200, 1), 0);
         x = Check.laid("p999;p2;r0;");
         due("2 and 200 less 1 are 201", x.notary(0, 1, 200, 1), 1);
+    }
+
+    private static void otherLoansDoNotCount() {
+        for (int borrower = 0; borrower < 3; borrower++) {
+            YearsLent x = Check.laid("p100;p100;p100;p999;r50;");
+            for (int other = 0; other < 3; other++) {
+                x.lend(3, other, 20, 10);
+                x.lend(3, other, 10, 80);
+            }
+            due(borrower + " has", x.person(borrower, 0), 130);
+            due(borrower + ": 130 and 41 less 79 less 30 are 62, more than 61", x.notary(3, borrower, 41, 79), 1);
+            due(borrower + ": 130 and 42 less 79 less 30 are 63", x.notary(3, borrower, 42, 79), 0);
+            due(borrower + ": 130 and 9 less 80 less 45 are 14, more than 13", x.notary(3, borrower, 9, 80), 1);
+            due(borrower + ": 130 and 10 less 80 less 45 are 15", x.notary(3, borrower, 10, 80), 0);
+        }
     }
 
     private static void lenderOfStrict() {

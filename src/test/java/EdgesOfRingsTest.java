@@ -217,6 +217,10 @@ public final class EdgesOfRingsTest {
         x.week();
         gives(x, 1, BAD, 1, 0, 0);
         gives(x, 2, BAD, 1, 1, 0);
+        x = Check.laid("p2;p20;p20;p20;p20;");
+        gives(x, 20, 0, 5, 5, 5, 5);
+        Check.weeks(x, 2);
+        due("what one who is DEAD had for a rest is no more", x.child(1, 1), 1);
     }
 
     private static void nothingByAsking() {
@@ -284,9 +288,17 @@ public final class EdgesOfRingsTest {
         x = Check.laid("p200;p10;p50;r0;n1;");
         x.lend(0, 1, 50, 59);
         due("J has 1 then, nothing is PAID", x.falls(1, 0), 0);
+        due("nor without the lender", x.falls(0, 0), 0);
         x = Check.laid("p200;p11;p50;r0;n1;");
         x.lend(0, 1, 50, 59);
         due("J has 2 then, 1 is PAID", x.falls(1, 0), 1);
+        due("but not without the lender", x.falls(0, 0), 1);
+        x = Check.laid("p100;p1;p100;r0;n1;");
+        x.lend(0, 1, 10, 5);
+        x.lend(2, 1, 10, 5);
+        due("the second has 5 of 10 PAID, without the first lender more, which is not less", x.falls(0, 0), 1);
+        due("without the second lender", x.falls(2, 0), 1);
+        due("without the borrower", x.falls(1, 0), 2);
         x = Check.laid("p999;p900;r0;n1;");
         x.lend(0, 1, 10, 200);
         x.lend(0, 1, 20, 200);
@@ -349,6 +361,11 @@ public final class EdgesOfRingsTest {
         x.lend(2, 1, 30, 10);
         x.lend(3, 1, 30, 10);
         due("2 and 3 behind 60, 0 behind 70", x.falls(1, 1), 2);
+        x = Check.laid("p90;p40;p90;p90;r0;n1;");
+        x.lend(0, 1, 30, 10);
+        x.lend(2, 1, 20, 10);
+        x.lend(3, 1, 10, 10);
+        due("0 behind 60, 2 behind 70, 3 behind 80", x.falls(1, 1), 0);
         x = Check.laid("p90;p40;p90;p90;r0;n1;");
         x.lend(0, 1, 20, 10);
         x.lend(2, 1, 20, 10);

@@ -100,6 +100,14 @@ public final class EdgesOfToldTest {
         x = Check.laid("p50;p80;r99;");
         x.tell(0, 1, 1, false);
         due("not more than 1", x.span(0, 0) * 1000 + x.span(0, 1), 1001);
+        for (int one = 0; one < 3; one++) {
+            x = Check.laid("p50;p80;p7;");
+            x.tell(one, 1, 30, true);
+            x.tell(one, 1, 40, false);
+            for (int i = 0; i < 3; i++) {
+                due("of " + i + ", TOLD of " + one, x.span(i, 0) * 1000 + x.span(i, 1), i == one ? 31040 : 1999);
+            }
+        }
     }
 
     /** One of whom it is TOLD that it has from so many WEEKS to so many (2 to 201, 1 to 200; INTEREST 10). */

@@ -125,9 +125,29 @@ public final class EdgesOfWeeksTest {
         Check.weeks(x, 2);
         due("PLAIN: in their order: 13 of 15", lost(x), 2);
         x = Check.laid("p100;p1;p100;p100;r0;n1;k2;");
+        x.lend(2, 1, 20, 2);
+        x.lend(0, 1, 5, 2);
+        x.lend(3, 1, 10, 2);
+        Check.weeks(x, 2);
+        due("20, made first, is first in any case: 8 of 10", lost(x), 2);
+        otherKindsInOrder();
+        x = Check.laid("p100;p1;p100;p100;r0;n1;k2;");
         x.lend(2, 1, 7, 2);
         Check.weeks(x, 2);
         due("one alone: 5 of 7", lost(x), 200);
+    }
+
+    /** 1 has 24 WEEKS when 5 (to 0) and 20 (to 2) are due. */
+    private static void otherKindsInOrder() {
+        int[][] weeks = {{PLAIN, 98, 96}, {WHOLE, 98, 78}, {FIRST, 96, 98}, {PLEDGED, 96, 98}};
+        for (int[] c : weeks) {
+            YearsLent x = Check.laid("p100;p1;p100;r0;n1;k" + c[0] + ";");
+            x.lend(0, 1, 5, 2);
+            x.lend(2, 1, 20, 2);
+            Check.weeks(x, 2);
+            due("KIND " + c[0] + ": WEEKS of 0", x.person(0, 0), c[1]);
+            due("KIND " + c[0] + ": WEEKS of 2", x.person(2, 0), c[2]);
+        }
     }
 
     /** LOST by 0, 2 and 3, two figures each. */
