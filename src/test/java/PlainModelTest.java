@@ -1,6 +1,9 @@
 import java.util.Random;
 
-/** Runs of 512 drawn calls, each answered by the class and by the plain model. The seeds are fixed: all runs are alike. */
+/**
+ * Runs of 512 drawn calls, each answered by the class and by the plain model. The seeds are fixed: all runs are alike.
+ * In every other run loans are small and due in the same few weeks, since the order of payments counts only there.
+ */
 public final class PlainModelTest {
     private static final int RUNS = 1500, CALLS = 512;
     private static final int[] WILD = {Integer.MIN_VALUE, Integer.MAX_VALUE, -1, 0, 1000, 1 << 20, -7};
@@ -8,12 +11,14 @@ public final class PlainModelTest {
     private static Random random;
     private static YearsLent x;
     private static PlainModel y;
+    private static int crowdedWeek;
 
     public static void main(String[] args) {
         for (int seed = 0; seed < RUNS; seed++) {
             random = new Random(seed);
             x = new YearsLent();
             y = new PlainModel();
+            crowdedWeek = 0;
             int calls = 0;
             if (random.nextInt(8) > 0) {
                 calls += layText(seed);
@@ -23,6 +28,7 @@ public final class PlainModelTest {
                     calls += layText(seed);
                 } else {
                     calls++;
+                    crowdedWeek = seed % 2 == 0 ? 0 : 6 - y.count(6) % 6;
                     anyCall("seed " + seed + ", call " + calls + ": ");
                 }
             }
@@ -44,7 +50,15 @@ public final class PlainModelTest {
     }
 
     private static int small(int greatest) {
+        if (crowdedWeek > 0 && random.nextInt(4) > 0) {
+            return number(1, 12);
+        }
         return random.nextInt(3) == 0 ? number(1, greatest) : number(1, 25);
+    }
+
+    /** Of a crowded run most loans, whenever they are made, are due in the same week. */
+    private static int dueIn() {
+        return crowdedWeek > 0 && random.nextInt(4) > 0 ? crowdedWeek : small(200);
     }
 
     private static String item() {
@@ -84,7 +98,7 @@ public final class PlainModelTest {
     }
 
     private static void anyCall(String at) {
-        int a = person(), b = person(), n = small(200), d = small(200), what = number(0, 3);
+        int a = person(), b = person(), n = small(200), d = dueIn(), what = number(0, 3);
         String with = "(" + a + ", " + b + ", " + n + ", " + d + ", " + what + ")";
         switch (random.nextInt(38)) {
             case 0: case 1: case 2: case 3: case 4: case 5:
